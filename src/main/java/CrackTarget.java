@@ -533,8 +533,8 @@ public final class CrackTarget {
             return times[dy * WIDTH + dx];
         }
 
-        /** How much longer a crack takes to ear 0 than to the ear opposite, 2. */
-        int lagOfEarZero(int x, int y) {
+        /** How much longer a crack takes to ear 0 than to ear 2; at the mirrored x, to ear 1 than to ear 3. */
+        int lag(int x, int y) {
             int point = y * WIDTH + x;
             return times[point] - times[times.length - 1 - point];
         }
@@ -561,20 +561,28 @@ public final class CrackTarget {
 
         /**
          * Looks for the place, and tells whether its spread is below the limit. No spread is less
-         * than the gap between the starts of ears 0 and 2. That gap falls as x or y grows, so that
-         * in each line the points worth a look stand together, and never further right than in the
-         * line before.
+         * than a gap between the starts of two opposite ears. The gap of ears 0 and 2 falls as x or
+         * y grows; that of ears 1 and 3 rises with x and falls with y. So in each line the points
+         * worth a look lie between two bounds, which from line to line only close in.
          */
         boolean search(Frame frame, int limit) {
             spread = limit;
             y = NOWHERE;
             int gap = times[0] - times[2];
+            int crossGap = times[1] - times[3];
+            int left = 0;
             int right = SIDE;
-            for (int line = 0; line <= SIDE; line++) {
-                while (right >= 0 && gap - frame.lagOfEarZero(right, line) < -spread) {
+            for (int line = 0; line <= SIDE && left <= right; line++) {
+                while (right >= 0 && gap - frame.lag(right, line) < -spread) {
                     right--;
                 }
-                for (int i = right; i >= 0 && gap - frame.lagOfEarZero(i, line) <= spread; i--) {
+                while (left <= right && crossGap - frame.lag(SIDE - left, line) < -spread) {
+                    left++;
+                }
+                for (int i = right; i >= left && gap - frame.lag(i, line) <= spread; i--) {
+                    if (crossGap - frame.lag(SIDE - i, line) > spread) {
+                        continue;
+                    }
                     int there = spreadAt(frame, i, line);
                     // a line is walked from the right, so that of its equals the later one has the lesser x
                     if (there < spread || there == spread && line == y) {
