@@ -211,7 +211,7 @@ public final class CrackTarget {
         for (int heat = LOWEST[HEAT]; heat <= HIGHEST[HEAT]; heat += 10) {
             tryOut(heat, NO_PULSE);
             int spreads = tried.sumOfSpreads();
-            if (tried.size > mostShots || tried.size == mostShots && spreads < leastSpreads) {
+            if (tried.size > mostShots || (tried.size == mostShots && spreads < leastSpreads)) {
                 best = heat;
                 mostShots = tried.size;
                 leastSpreads = spreads;
@@ -248,7 +248,7 @@ public final class CrackTarget {
             return TOO_MANY;
         }
         for (int next = given - 1; next >= 0; next--) {
-            pad.append((char) (characters >>> 8 * next & 255));
+            pad.append((char) ((characters >>> (8 * next)) & 255));
         }
         return pad.length;
     }
@@ -585,7 +585,7 @@ public final class CrackTarget {
                     }
                     int there = spreadAt(frame, i, line);
                     // a line is walked from the right, so that of its equals the later one has the lesser x
-                    if (there < spread || there == spread && line == y) {
+                    if (there < spread || (there == spread && line == y)) {
                         x = i;
                         y = line;
                         spread = there;
@@ -646,9 +646,7 @@ public final class CrackTarget {
 
         private void judge(Frame frame, Heard heard, int first, Shots shots) {
             shots.owners[first] = NONE;
-            if (!gather(heard, first, shots.owners)) {
-                return;
-            }
+            gather(heard, first, shots.owners);
             int limit = heard.settings[SLACK] + 1;
             boolean fitting = false;
             // a row must be below the best one before it, and none is below 0
@@ -664,8 +662,8 @@ public final class CrackTarget {
             }
         }
 
-        /** Notes the pulses that are looked at with the first one, and tells whether each ear has one. */
-        private boolean gather(Heard heard, int first, int[] owners) {
+        /** Notes the pulses that are looked at with the first one. */
+        private void gather(Heard heard, int first, int[] owners) {
             for (int ear = 0; ear < EARS; ear++) {
                 nearSizes[ear] = 0;
             }
@@ -680,13 +678,15 @@ public final class CrackTarget {
                     nearSizes[ear]++;
                 }
             }
-            return nearSizes[0] > 0 && nearSizes[1] > 0 && nearSizes[2] > 0 && nearSizes[3] > 0;
         }
 
-        /** Takes the row of a number, whose bits say which pulse each ear gives, ear 0 in the highest. */
+        /**
+         * Takes the row of a number, whose bits say which pulse each ear gives, ear 0 in the highest,
+         * so that the numbers count the rows in their order. An ear without a pulse leaves no row.
+         */
         private boolean choose(Heard heard, int choice) {
             for (int ear = 0; ear < EARS; ear++) {
-                int which = choice >> EARS - 1 - ear & 1;
+                int which = (choice >> (EARS - 1 - ear)) & 1;
                 if (which >= nearSizes[ear]) {
                     return false;
                 }

@@ -28,7 +28,7 @@ public final class AgainstPlainModel {
     private static void play(int run, Random random) {
         CrackTarget real = new CrackTarget();
         Plain plain = new Plain();
-        int span = new int[] {400, 2500, 8000, 90000}[random.nextInt(4)];
+        int span = new int[] {8, 400, 2500, 8000, 90000}[random.nextInt(5)];
         int slack = new int[] {6, 60, 300}[random.nextInt(3)];
         boolean filling = random.nextBoolean();
         for (int i = 0; i < CALLS; i++) {
@@ -52,6 +52,10 @@ public final class AgainstPlainModel {
         int y = odd ? r.nextInt(60) - 10 : r.nextInt(41);
         int ear = odd ? r.nextInt(8) - 2 : r.nextInt(4);
         int time = odd ? r.nextInt(220000) - 60000 : r.nextInt(span);
+        if (kind == 1 && plain.now.pulses.size() > 0 && r.nextBoolean()) {
+            // near another pulse, so that rows come that are as good as another
+            time = plain.now.at(r.nextInt(plain.now.pulses.size()))[0] + r.nextInt(2);
+        }
         int pulse = odd ? r.nextInt(44) - 5 : r.nextInt(plain.now.pulses.size() + 1);
         int shot = odd ? r.nextInt(14) - 3 : r.nextInt(plain.now.pulses.size() / 4 + 1);
         switch (kind) {

@@ -20,6 +20,7 @@ public final class PromiseTest {
         pulse();
         shot();
         shotsAmongPulses();
+        ties();
         count();
         fits();
         mean();
@@ -150,6 +151,13 @@ public final class PromiseTest {
         c.hear(3, 1000 + 1176);
         due("one of them there", NOT_POSSIBLE, c.fire(0, 0, 1000));
         due("none is heard then", 1, c.count(0));
+        int[] times = {20000, 21176, 21663, 21176};
+        for (int ear = 0; ear < 4; ear++) {
+            CrackTarget d = new CrackTarget();
+            d.hear(ear, times[ear]);
+            due("ear " + ear + " there", NOT_POSSIBLE, d.fire(0, 0, 20000));
+            due("a little later", 5, d.fire(0, 0, 20001));
+        }
         for (int i = 0; i < 7; i++) {
             due("filling", 5 + 4 * i, c.fire(10, 10, 5000 + i));
         }
@@ -377,6 +385,36 @@ public final class PromiseTest {
         due("pulse of the second", 4, g.shot(1, 5));
     }
 
+    /** Of several places, rows and pulses that are as good as another, the one that the document names. */
+    private static void ties() {
+        CrackTarget c = begin("10 shot, ties");
+        c.set(2, 300);
+        // (20, 18): 791 and 874, (20, 19): 811 and 852; both leave 21
+        heard(c, 1000, 1000, 1062, 1062);
+        due("spread", 21, c.shot(0, 2));
+        due("the other place is as good", 21, c.fits(0, 20, 19));
+        due("the least y", 18, c.shot(0, 1));
+        due("moment", 11000 - 812, c.shot(0, 3));
+        c.clear();
+        heard(c, 1000, 1062, 1062, 1000);
+        due("spread", 21, c.shot(0, 2));
+        due("the other place is as good", 21, c.fits(0, 19, 20));
+        due("the least x", 18, c.shot(0, 0));
+        c.clear();
+        // mirrored, (10, 15) and (15, 10) are one shot with the pulses of ears 1 and 3 changed
+        c.set(2, 6);
+        c.fire(10, 15, 1000);
+        c.hear(1, 1000 + c.takes(10, 15, 3));
+        c.hear(3, 1000 + c.takes(10, 15, 1));
+        due("one shot", 1, c.count(1));
+        due("its spread", 0, c.shot(0, 2));
+        due("the two others are strays", 2, c.count(2));
+        due("the earlier pulse of the lowest ear", 1, c.shot(0, 6));
+        due("with the later one of the last ear", 4, c.shot(0, 8));
+        due("x", 15, c.shot(0, 0));
+        due("y", 10, c.shot(0, 1));
+    }
+
     private static void heard(CrackTarget c, int a, int b, int d, int e) {
         c.hear(0, a);
         c.hear(1, b);
@@ -403,6 +441,10 @@ public final class PromiseTest {
         due("a later shot with a greater ring", 3, c.count(4));
         c.clear();
         due("no shots", NONE, c.count(4));
+        c.fire(7, 7, 0);
+        c.fire(7, 7, 5000);
+        due("two shots at one place", 0, c.count(6));
+        c.clear();
         c.fire(0, 0, 0);
         due("the first one, though its ring is 0", 0, c.count(4));
         due("one shot has no distance", 0, c.count(6));
