@@ -2,11 +2,7 @@
  * The promises of ../shared/DOC.md one by one: ordinary inputs, the edges that the document names, and
  * wrong inputs. What is due was worked out from the document by hand.
  */
-public final class PromiseTest {
-    private static final int NO_SUCH = -1, BAD_VALUE = -2, BAD_TEXT = -3, TOO_MANY = -4, NOT_POSSIBLE = -5, NONE = -6;
-    private static int wrong = 0;
-    private static String promise = "";
-
+public final class PromiseTest extends Check {
     public static void main(String[] args) {
         newObject();
         set();
@@ -34,37 +30,12 @@ public final class PromiseTest {
         undoLeaves();
         save();
         restore();
-        System.out.println(wrong == 0 ? "all promises hold" : wrong + " answers are not as due");
-        if (wrong != 0) {
-            System.exit(1);
-        }
-    }
-
-    private static void due(String call, long want, long got) {
-        if (want != got) {
-            wrong++;
-            System.out.println(promise + ": " + call + " answered " + got + ", due is " + want);
-        }
+        end();
     }
 
     private static CrackTarget begin(String name) {
-        promise = name;
+        test(name);
         return new CrackTarget();
-    }
-
-    /** Puts a text, eight characters at a time. */
-    private static void type(CrackTarget c, String text) {
-        for (int i = 0; i < text.length(); i += 8) {
-            c.put(letters(text.substring(i, Math.min(i + 8, text.length()))));
-        }
-    }
-
-    private static long letters(String text) {
-        long characters = 0;
-        for (char sign : text.toCharArray()) {
-            characters = characters << 8 | sign;
-        }
-        return characters;
     }
 
     private static void newObject() {
@@ -415,13 +386,6 @@ public final class PromiseTest {
         due("y", 10, c.shot(0, 1));
     }
 
-    private static void heard(CrackTarget c, int a, int b, int d, int e) {
-        c.hear(0, a);
-        c.hear(1, b);
-        c.hear(2, d);
-        c.hear(3, e);
-    }
-
     private static void count() {
         CrackTarget c = begin("11 count");
         c.fire(20, 25, 0);
@@ -610,7 +574,7 @@ public final class PromiseTest {
     }
 
     private static void fault() {
-        promise = "19 fault";
+        test("19 fault");
         Object[][] texts = {{"", 0}, {"0", 1}, {"0:", 2}, {"0:0", NONE}, {"3:99999", NONE}, {"4:1", 0}, {"/:1", 0},
             {":1", 0}, {"0;", 1}, {"00", 1}, {"0::", 2}, {"0:;", 2}, {"0:00", 3}, {"0:01", 3}, {"0:10", NONE},
             {"0:100000", 7}, {"0:99999;", 8}, {"0:999990", 7}, {"0:12345678", 7}, {"0:1;;", 4}, {"0:1;4", 4}, {"0:1;1:2", NONE},
