@@ -28,6 +28,7 @@ public final class BoundaryTermsTest extends Check {
         notBelowFirst();
         firstTwoAlone();
         oneAlone();
+        rowsWithFirst();
         anEarHasNone();
         strayIsUsed();
         pulsesOfShotAreUsed();
@@ -367,6 +368,20 @@ public final class BoundaryTermsTest extends Check {
             c.hear(crowded, 1900);
             due("one of the others", 1, c.count(1));
             due("one is left", 1, c.count(2));
+        }
+    }
+
+    private static void rowsWithFirst() {
+        test("rows are tried with the first pulse, though a later one of its ear would fit better");
+        for (int first = 0; first < 4; first++) {
+            CrackTarget c = hearing(20, 1010, 1010, 1010, 1010);
+            c.hear(first, 1000);
+            due("the first of ear " + first, 1000, c.pulse(c.shot(0, 5 + first), 1));
+            due("its spread", 10, c.shot(0, 2));
+            c.hear((first + 1) % 4, 900);
+            due("an earlier stray, which looks at both", NONE, c.pulse(0, 2));
+            due("the first of ear " + first + " still", 1000, c.pulse(c.shot(0, 5 + first), 1));
+            due("shots", 1, c.count(1));
         }
     }
 
