@@ -11,6 +11,7 @@ import java.util.regex.Pattern;
  */
 public final class AgainstPlainModel {
     private static final int CALLS = 512;
+    private static final int[] EXTREMES = {Integer.MIN_VALUE, Integer.MIN_VALUE / 4, -1, Integer.MAX_VALUE / 4 + 1, Integer.MAX_VALUE};
     private static int wrong = 0;
 
     public static void main(String[] args) {
@@ -34,6 +35,9 @@ public final class AgainstPlainModel {
         for (int i = 0; i < CALLS; i++) {
             int kind = random.nextInt(filling ? 26 : 22);
             int[] a = arguments(kind, random, span, slack, plain);
+            if (a.length > 0 && random.nextInt(30) == 0) {
+                a[random.nextInt(a.length)] = EXTREMES[random.nextInt(EXTREMES.length)];
+            }
             long characters = kind == 15 ? letters(random, plain) : 0;
             long got = call(real, kind, a, characters);
             long due = plain.call(kind, a, characters);
